@@ -666,7 +666,9 @@ public final class SongThatStays {
         }
 
         int value(int place) {
-            return isDigit(place + 1) ? 10 * digit(place) + digit(place + 1) : digit(place);
+            int first = digit(place);
+            int second = digit(place + 1);
+            return second == NONE ? first : 10 * first + second;
         }
 
         /** Of the statement that begins here: which kind is told behind its first letter; below 0 none. */

@@ -92,6 +92,7 @@ public final class ImageTest {
         x.hour();
         due("on", x.on(), 0);
         CHECK.due("nobody", Check.all(x), "0 0 0 0 0 6 0 0 0 0 ");
+        due("nobody holds any", x.have(-1, 5), 0);
         due("one comes", Check.tell(x, "ss12;hy34;"), 2);
         CHECK.due("he is as told", Check.head(x, 0), "5 3 4 -9 0 0 0 0 ");
     }

@@ -16,6 +16,7 @@ public final class MindTest {
         theGiverHasAnotherSongSince();
         hoursAreCountedOnInMind();
         nothingChanges();
+        nothingIsKeptInMind();
         CHECK.end();
     }
 
@@ -215,5 +216,31 @@ public final class MindTest {
         x.write(9, 60, 0);
         x.seeds(40, 77);
         CHECK.due("all is as it was", Check.all(x), before);
+    }
+
+    /** What was imagined before leaves no trace in what is imagined next. */
+    private static void nothingIsKeptInMind() {
+        SongThatStays x = Check.told("d01;d12;ss99;sl42;hw00;hw10;hh20;g00;");
+        for (int round = 0; round < 3; round++) {
+            x.hold(0, 60, 0);
+            due("takes", x.takes(1, 0), 1);
+            x.hold(0, 60, 0);
+            due("still", x.still(), -9);
+            due("hold", x.hold(0, 0, 1), 27);
+            due("most", x.most(0, 3, 0), 2);
+            due("from", x.from(0, 15), 1);
+            due("himself", x.from(0, 1), 0);
+            due("first", x.first(2, 2), 0);
+            due("first himself", x.first(0, 13), 0);
+            x.get(0, -1);
+            due("still then", x.still(), 0);
+            due("nobody", x.first(0, 0), -9);
+            x.get(2, 0);
+            due("first of another", x.first(0, 2), 2);
+            due("first of himself", x.first(2, 2), 2);
+            due("first of the one between", x.first(1, 2), 2);
+            x.get(2, -1);
+            x.get(0, 0);
+        }
     }
 }

@@ -136,6 +136,10 @@ public final class OfficeTest {
         due("96 letters that lack one", Check.tell(x, text.toString()), -1096);
         text.setCharAt(95, (char) 187);
         due("a strange last letter", Check.tell(x, text.toString()), -1095);
+        SongThatStays y = Check.told("d01;d12;o12;");
+        due("the letters before are no more", Check.tell(y, "d01"), -1003);
+        due("none of them", Check.tell(y, ""), -1000);
+        due("a digit before is no more", Check.tell(y, "o1"), -1002);
     }
 
     private static void faultsOfStatements() {

@@ -8,6 +8,7 @@ public final class PlanTest {
         seats();
         write();
         writeBounds();
+        writeTheLastOfAll();
         CHECK.end();
     }
 
@@ -82,5 +83,19 @@ public final class PlanTest {
         due("greatest length, most hours", x.write(9, 60, 0), 31);
         Check.tell(x, "sl11;");
         due("five songs", x.write(1, 0, 1), -6);
+    }
+
+    /**
+     * The busy one's own jingle is 44 strong and keeps all others out until it is 14, behind five hours; until then
+     * the second hums what pulls as much. Then a hymn alone is loud enough, and of hymns the one that pulls most.
+     */
+    private static void writeTheLastOfAll() {
+        SongThatStays x = Check.told("sl92;sj91;hd00;hd00;hb00;o16;");
+        x.hour();
+        x.get(1, 0);
+        x.get(2, 1);
+        due("a hymn that pulls most", x.write(1, 6, 0), 59);
+        due("two have it", x.write(1, 6, 1), 2);
+        due("an hour less", x.write(1, 5, 1), 1);
     }
 }

@@ -92,6 +92,11 @@ public final class RowTest {
         judged("much too long", 3, 1, 9, 0, 9, 9, 9);
         judged("too long, and not so", 0, 9, 9, 0, 9);
         judged("a number that is no song", 2, 1, 9, 5);
+        SongThatStays again = Check.told("ss53;hh00;hh00;g10;");
+        Check.tellRow(again, 1, 2, 3, 4, 5, 6);
+        due("another row", again.judge(), 0);
+        Check.tellRow(again, 9, 0);
+        due("as all is, behind a longer row", again.judge(), -9);
         SongThatStays x = new SongThatStays();
         due("nobody", x.judge(), -9);
         x.row(9);
