@@ -51,6 +51,7 @@ public final class PlanTest {
         due("two others", Check.told("d01;d12;d04;ss53;hd00;hd00;hh10;hd30;g00;").seats(1), 3);
         due("23", Check.told("d01;d04;d14;d40;ss53;hd00;hd10;hh40;hd30;g00;g10;").seats(1), 23);
         due("as many", Check.told("ss53;hh00;hh00;hh00;g00;").seats(5), -9);
+        due("nobody to change with", Check.told("ss53;hd10;hh10;g00;").seats(1), -9);
         due("nobody", new SongThatStays().seats(60), -9);
     }
 
