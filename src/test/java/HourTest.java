@@ -155,12 +155,20 @@ public final class HourTest {
 
     /** 999 hours are more than an object's calls allow; the refusal can be seen no other way. */
     private static void theLastHour() {
-        SongThatStays x = new SongThatStays();
-        Check.pass(x, 999);
-        due("hour", x.count(4), 999);
+        SongThatStays x = Check.told("ss99;hw00;hw00;g00;");
+        Check.pass(x, 998);
+        due("hour 998", x.count(4), 998);
+        due("it goes by", x.hour() >= 0 ? 1 : 0, 1);
+        due("hour 999", x.count(4), 999);
+        x.get(0, 0);
+        x.get(1, -1);
+        x.remedy(0, 2);
+        String before = Check.all(x);
         due("no hour more", x.hour(), -6);
-        due("the hour stays", x.count(4), 999);
         CHECK.due("it is counted", Check.refusals(x), "0 0 0 0 0 1");
-        due("hours in mind go on", x.still(), 0);
+        CHECK.due("nothing else changes", Check.all(x), before);
+        due("no hour more, again", x.hour(), -6);
+        CHECK.due("it is counted again", Check.refusals(x), "0 0 0 0 0 2");
+        due("hours in mind go on", x.hold(1, 1, 0), 0);
     }
 }

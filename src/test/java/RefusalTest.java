@@ -1,231 +1,367 @@
-/** The refusals of each promise in the order in which it tells them; they are counted, and nothing else changes. */
+import java.util.function.Supplier;
+
+/**
+ * The refusals of each promise: every way to put together arguments that fit (the least and the greatest allowed) and
+ * that don't (one beyond each, and the int's own ends). The first that fits in the order in which the promise tells
+ * them is answered and counted, and a twin that was not asked answers all the same as the one that was.
+ */
 public final class RefusalTest {
     private static final Check CHECK = new Check("RefusalTest");
-    private static final int LEAST = Integer.MIN_VALUE;
-    private static final int GREATEST = Integer.MAX_VALUE;
-    /** The second has no song. */
-    private static final String TWO = "d01;ss53;sl42;hh00;hh10;g00;";
+    private static final int NONE = 0;
+    private static final int[] HEAD = range(0, 2, -1, -1);
+    private static final int[] SONG = range(0, 1, -1, -1);
+    private static final int[] SONG_OR_ANY = range(-1, 1, -1, -1);
+    private static final int[] DOOR = range(0, 1, -1, -1);
+    private static final int[] ROOM = range(0, 4, -1, -1);
+    private static final int[] WHAT = range(0, 1, -2, -2);
+    private static final int[] HOURS = range(0, 60, -4, -6);
 
-    private static SongThatStays x;
-    private static int[] counts;
+    private interface Call {
+        int on(SongThatStays x, int[] v);
+    }
+
+    /** The refusal that the state asks for with these arguments, or NONE. */
+    private interface State {
+        int fits(int[] v);
+    }
 
     public static void main(String[] args) {
-        promises2to6();
-        promises7to12();
-        promises13to16();
-        promises17to20();
-        promises21to24();
-        promise25();
-        promises26to32();
+        letter();
+        office();
+        songAndHead();
+        nearDoorGo();
+        get();
+        remedy();
+        loud();
+        holdAndHave();
+        takes();
+        most();
+        lasts();
+        fromAndFirst();
+        ridAndInstead();
+        shutAndSeats();
+        write();
+        row();
+        otherwise();
+        seeds();
+        on();
+        neverRefused();
         CHECK.end();
     }
 
-    private static void begin(String office) {
-        x = Check.told(office);
-        counts = new int[7];
+    /** Values with the refusal that each asks for: the ends are allowed, one beyond each is not. */
+    private static int[] range(int least, int greatest, int below, int above) {
+        return new int[] {least, NONE, greatest, NONE, least - 1, below, greatest + 1, above,
+            Integer.MIN_VALUE, below, Integer.MAX_VALUE, above};
     }
 
-    private static void refused(String call, int got, int want) {
-        CHECK.due(call, got, want);
-        counts[-want]++;
+    private static int[] order(int... refusals) {
+        return refusals;
     }
 
-    private static void end(String part, String before) {
-        StringBuilder want = new StringBuilder();
-        for (int i = 1; i <= 6; i++) {
-            want.append(i == 1 ? "" : " ").append(counts[i]);
-        }
-        CHECK.due(part + ": counts", Check.refusals(x), want.toString());
-        CHECK.due(part + ": nothing else changed", Check.all(x), before);
+    /** A door is shut, one head has gum and one no song, letters and a row are begun, an image, refusals of all kinds. */
+    private static SongThatStays standing() {
+        SongThatStays x = Check.told("d01;d12;ss53;sl42;hh04;hw13;hy26;g00;g21;");
+        x.remedy(0, 2);
+        x.image();
+        x.hour();
+        x.get(1, -1);
+        x.door(0);
+        x.go(2, 3);
+        x.loud(4);
+        x.letter('o');
+        x.letter('7');
+        Check.tellRow(x, 0, 9);
+        x.song(9, 0);
+        x.song(0, 9);
+        x.remedy(1, 0);
+        x.letter(-1);
+        x.letter(256);
+        return x;
     }
 
-    private static void promises2to6() {
-        begin(TWO);
-        String before = Check.all(x);
-        refused("letter(-1)", x.letter(-1), -4);
-        refused("letter(256)", x.letter(256), -6);
-        refused("letter(least)", x.letter(LEAST), -4);
-        refused("letter(greatest)", x.letter(GREATEST), -6);
-        for (int song : new int[] {-1, 2, LEAST, GREATEST}) {
-            refused("song(" + song + ", 0)", x.song(song, 0), -1);
-            refused("song(" + song + ", 5)", x.song(song, 5), -1);
+    /** All that can be seen of it, the contents of letters, row and image, too; it is used up then. */
+    private static String everything(SongThatStays x) {
+        StringBuilder all = new StringBuilder(Check.all(x)).append(doors(x));
+        all.append("row ").append(x.judge()).append(" of ").append(x.count(8)).append(' ');
+        x.letter(';');
+        all.append("office ").append(x.office()).append(" loud ").append(x.count(5)).append(' ');
+        int hour = x.on();
+        if (hour >= 0) {
+            all.append("on ").append(hour).append(' ').append(Check.all(x)).append(doors(x));
         }
-        for (int what : new int[] {-1, 5, LEAST, GREATEST}) {
-            refused("song(1, " + what + ")", x.song(1, what), -2);
-        }
-        for (int head : new int[] {-1, 2, LEAST, GREATEST}) {
-            refused("head(" + head + ", 0)", x.head(head, 0), -1);
-            refused("head(" + head + ", 8)", x.head(head, 8), -1);
-            refused("near(" + head + ")", x.near(head), -1);
-        }
-        for (int what : new int[] {-1, 8, LEAST, GREATEST}) {
-            refused("head(1, " + what + ")", x.head(1, what), -2);
-        }
-        end("promises 2 to 6", before);
+        return all.toString();
     }
 
-    private static void promises7to12() {
-        begin(TWO);
-        String before = Check.all(x);
-        for (int none : new int[] {-1, 2, LEAST, GREATEST}) {
-            refused("door(" + none + ")", x.door(none == 2 ? 1 : none), -1);
-            refused("go(" + none + ", 0)", x.go(none, 0), -1);
-            refused("go(" + none + ", 5)", x.go(none, 5), -1);
-            refused("get(" + none + ", 0)", x.get(none, 0), -1);
-            refused("get(" + none + ", -1)", x.get(none, -1), -1);
-            refused("remedy(" + none + ", 0)", x.remedy(none, 0), -1);
-            refused("remedy(" + none + ", 3)", x.remedy(none, 3), -1);
+    private static String doors(SongThatStays x) {
+        StringBuilder all = new StringBuilder("doors ");
+        for (int door = 0; door < x.count(2); door++) {
+            all.append(x.door(door)).append(' ');
+            x.door(door);
         }
-        for (int room : new int[] {-1, 5, LEAST, GREATEST}) {
-            refused("go(0, " + room + ")", x.go(0, room), -1);
-        }
-        for (int song : new int[] {-2, 2, LEAST, GREATEST}) {
-            refused("get(0, " + song + ")", x.get(0, song), -1);
-        }
-        for (int what : new int[] {-1, 3, LEAST, GREATEST}) {
-            refused("remedy(1, " + what + ")", x.remedy(1, what), -2);
-        }
-        refused("remedy(1, 0)", x.remedy(1, 0), -3);
-        refused("remedy(1, 1)", x.remedy(1, 1), -3);
-        refused("loud(0)", x.loud(0), -4);
-        refused("loud(21)", x.loud(21), -6);
-        refused("loud(least)", x.loud(LEAST), -4);
-        refused("loud(greatest)", x.loud(GREATEST), -6);
-        end("promises 7 to 12", before);
+        return all.toString();
     }
 
-    private static void promises13to16() {
-        begin(TWO);
-        String before = Check.all(x);
-        for (int none : new int[] {-1, 2, LEAST, GREATEST}) {
-            refused("hold(" + none + ", 0, 0)", x.hold(none, 0, 0), -1);
-            refused("hold(" + none + ", -1, 2)", x.hold(none, -1, 2), -1);
-            refused("takes(" + none + ", 0)", x.takes(none, 0), -1);
-            refused("takes(0, " + none + ")", x.takes(0, none), -1);
-            int song = none == -1 ? -2 : none;
-            refused("have(" + song + ", 0)", x.have(song, 0), -1);
-            refused("have(" + song + ", -1)", x.have(song, -1), -1);
-            refused("have(" + song + ", 61)", x.have(song, 61), -1);
-        }
-        for (int n : new int[] {-1, LEAST}) {
-            refused("hold(0, " + n + ", 2)", x.hold(0, n, 2), -4);
-            refused("have(-1, " + n + ")", x.have(-1, n), -4);
-        }
-        for (int n : new int[] {61, GREATEST}) {
-            refused("hold(0, " + n + ", 2)", x.hold(0, n, 2), -6);
-            refused("have(0, " + n + ")", x.have(0, n), -6);
-        }
-        for (int what : new int[] {-1, 2, LEAST, GREATEST}) {
-            refused("hold(0, 60, " + what + ")", x.hold(0, 60, what), -2);
-        }
-        end("promises 13 to 16", before);
+    private static void promise(String name, int[] order, Call call, int[]... arguments) {
+        promise(name, order, call, RefusalTest::standing, v -> NONE, arguments);
     }
 
-    private static void promises17to20() {
-        begin(TWO);
-        String before = Check.all(x);
-        for (int none : new int[] {-1, 2, LEAST, GREATEST}) {
-            int song = none == -1 ? -2 : none;
-            refused("most(" + song + ", 0, 0)", x.most(song, 0, 0), -1);
-            refused("most(" + song + ", -1, 2)", x.most(song, -1, 2), -1);
-            refused("from(" + none + ", 61)", x.from(none, 61), -1);
-            refused("first(" + none + ", 61)", x.first(none, 61), -1);
+    private static void promise(String name, int[] order, Call call, Supplier<SongThatStays> made, State state,
+            int[]... arguments) {
+        int ways = 1;
+        for (int[] argument : arguments) {
+            ways *= argument.length / 2;
         }
-        for (int n : new int[] {-1, LEAST}) {
-            refused("most(-1, " + n + ", 2)", x.most(-1, n, 2), -4);
-            refused("lasts(" + n + ")", x.lasts(n), -4);
-            refused("from(0, " + n + ")", x.from(0, n), -4);
-            refused("first(0, " + n + ")", x.first(0, n), -4);
+        for (int way = 0; way < ways; way++) {
+            int[] values = new int[arguments.length];
+            int[] fits = new int[arguments.length + 1];
+            int rest = way;
+            StringBuilder told = new StringBuilder(name).append('(');
+            for (int i = 0; i < arguments.length; i++) {
+                int number = arguments[i].length / 2;
+                values[i] = arguments[i][rest % number * 2];
+                fits[i] = arguments[i][rest % number * 2 + 1];
+                rest /= number;
+                told.append(i == 0 ? "" : ", ").append(values[i]);
+            }
+            fits[arguments.length] = state.fits(values);
+            one(told.append(")").toString(), call, made, values, first(order, fits));
         }
-        for (int n : new int[] {61, GREATEST}) {
-            refused("most(0, " + n + ", 2)", x.most(0, n, 2), -6);
-            refused("lasts(" + n + ")", x.lasts(n), -6);
-            refused("from(0, " + n + ")", x.from(0, n), -6);
-            refused("first(0, " + n + ")", x.first(0, n), -6);
-        }
-        for (int what : new int[] {-1, 2, LEAST, GREATEST}) {
-            refused("most(0, 60, " + what + ")", x.most(0, 60, what), -2);
-        }
-        end("promises 17 to 20", before);
     }
 
-    private static void promises21to24() {
-        begin(TWO);
-        String before = Check.all(x);
-        for (int none : new int[] {-1, 2, LEAST, GREATEST}) {
-            refused("rid(" + none + ", 2)", x.rid(none, 2), -1);
-            refused("instead(" + none + ")", x.instead(none), -1);
+    private static int first(int[] order, int[] fits) {
+        for (int refusal : order) {
+            for (int fit : fits) {
+                if (fit == refusal) {
+                    return refusal;
+                }
+            }
         }
-        for (int what : new int[] {-1, 2, LEAST, GREATEST}) {
-            refused("rid(0, " + what + ")", x.rid(0, what), -2);
-            refused("rid(1, " + what + ")", x.rid(1, what), -2);
-        }
-        refused("rid(1, 0)", x.rid(1, 0), -3);
-        refused("rid(1, 1)", x.rid(1, 1), -3);
-        refused("instead(1)", x.instead(1), -3);
-        for (int n : new int[] {-1, LEAST}) {
-            refused("shut(" + n + ")", x.shut(n), -4);
-            refused("seats(" + n + ")", x.seats(n), -4);
-        }
-        for (int n : new int[] {61, GREATEST}) {
-            refused("shut(" + n + ")", x.shut(n), -6);
-            refused("seats(" + n + ")", x.seats(n), -6);
-        }
-        end("promises 21 to 24", before);
+        return NONE;
     }
 
-    private static void promise25() {
-        begin("ss11;ss12;ss13;ss14;");
-        String before = Check.all(x);
-        refused("write(0, 61, 2)", x.write(0, 61, 2), -4);
-        refused("write(10, -1, 2)", x.write(10, -1, 2), -4);
-        refused("write(least, 0, 0)", x.write(LEAST, 0, 0), -4);
-        refused("write(1, least, 0)", x.write(1, LEAST, 0), -4);
-        refused("write(10, 0, 2)", x.write(10, 0, 2), -6);
-        refused("write(1, 61, 2)", x.write(1, 61, 2), -6);
-        refused("write(greatest, 0, 0)", x.write(GREATEST, 0, 0), -6);
-        refused("write(9, greatest, 0)", x.write(9, GREATEST, 0), -6);
-        refused("write(9, 60, 2)", x.write(9, 60, 2), -2);
-        refused("write(9, 60, -1)", x.write(9, 60, -1), -2);
-        refused("write(9, 60, 0)", x.write(9, 60, 0), -3);
-        refused("write(1, 0, 1)", x.write(1, 0, 1), -3);
-        end("promise 25", before);
-        begin("ss11;ss12;ss13;ss14;ss15;");
-        before = Check.all(x);
-        refused("write(0, 0, 0), five songs", x.write(0, 0, 0), -4);
-        refused("write(1, 0, 2), five songs", x.write(1, 0, 2), -6);
-        end("promise 25, five songs", before);
+    private static void one(String told, Call call, Supplier<SongThatStays> made, int[] values, int want) {
+        SongThatStays asked = made.get();
+        SongThatStays twin = made.get();
+        int got = call.on(asked, values);
+        if (want == NONE) {
+            CHECK.due(told + " is no refusal", got >= 0 || got == -9 ? 1 : 0, 1);
+            CHECK.due(told + " counts none", Check.refusals(asked), Check.refusals(twin));
+            return;
+        }
+        CHECK.due(told, got, want);
+        for (int refusal = -1; refusal >= -6; refusal--) {
+            CHECK.due(told + " count(" + (10 - refusal) + ")", asked.count(10 - refusal),
+                    twin.count(10 - refusal) + (refusal == want ? 1 : 0));
+        }
+        CHECK.due(told + " changes nothing else", everything(asked), everything(twin));
     }
 
-    private static void promises26to32() {
-        begin(TWO);
-        x.row(0);
-        String before = Check.all(x);
-        refused("row(-1)", x.row(-1), -4);
-        refused("row(10)", x.row(10), -6);
-        refused("row(least)", x.row(LEAST), -4);
-        refused("row(greatest)", x.row(GREATEST), -6);
-        refused("otherwise(-1, 2)", x.otherwise(-1, 2), -4);
-        refused("otherwise(61, 2)", x.otherwise(61, 2), -6);
-        refused("otherwise(least, 0)", x.otherwise(LEAST, 0), -4);
-        refused("otherwise(greatest, 0)", x.otherwise(GREATEST, 0), -6);
-        refused("otherwise(60, 2)", x.otherwise(60, 2), -2);
-        refused("otherwise(0, -1)", x.otherwise(0, -1), -2);
-        refused("otherwise(0, 0)", x.otherwise(0, 0), -3);
-        refused("otherwise(60, 1)", x.otherwise(60, 1), -3);
-        for (int n : new int[] {0, -1, LEAST}) {
-            refused("seeds(" + n + ", 0)", x.seeds(n, 0), -4);
+    /** "-4; -6 (255; 96, too)". */
+    private static void letter() {
+        Call call = (x, v) -> x.letter(v[0]);
+        int[] letters = range(0, 255, -4, -6);
+        promise("letter", order(-4, -6), call, letters);
+        promise("letter, 95 there", order(-4, -6), call, () -> lettered(95), v -> NONE, letters);
+        promise("letter, 96 there", order(-4, -6), call, () -> lettered(96), v -> -6, letters);
+    }
+
+    private static SongThatStays lettered(int number) {
+        SongThatStays x = new SongThatStays();
+        for (int i = 0; i < number; i++) {
+            x.letter("o7;".charAt(i % 3));
         }
-        for (int n : new int[] {41, GREATEST}) {
-            refused("seeds(" + n + ", 0)", x.seeds(n, 0), -6);
+        return x;
+    }
+
+    /** "the FAULT (nothing is counted)". */
+    private static void office() {
+        for (String text : new String[] {"", "x", "d", "d00;", "o21;", "g99;", "ss10;"}) {
+            SongThatStays x = standing();
+            x.office();
+            String before = Check.refusals(x);
+            CHECK.due("office " + text + " has a fault", Check.tell(x, text) <= -1000 ? 1 : 0, 1);
+            CHECK.due("office " + text + " counts nothing", Check.refusals(x), before);
         }
-        refused("on()", x.on(), -3);
-        end("promises 26 to 32", before);
-        Check.tellRow(x, 0, 0, 0, 0, 0);
-        before = Check.all(x);
-        refused("otherwise, a row too long", x.otherwise(0, 0), -3);
-        refused("row(-1) when full", x.row(-1), -4);
-        refused("row(0) when full", x.row(0), -6);
-        end("promise 26, full", before);
+    }
+
+    /** "-1; -2" either. */
+    private static void songAndHead() {
+        promise("song", order(-1, -2), (x, v) -> x.song(v[0], v[1]), SONG, range(0, 4, -2, -2));
+        promise("head", order(-1, -2), (x, v) -> x.head(v[0], v[1]), HEAD, range(0, 7, -2, -2));
+        State always = v -> -1;
+        promise("song, none there", order(-1, -2), (x, v) -> x.song(v[0], v[1]), SongThatStays::new, always,
+                range(0, 0, -1, -1), range(0, 4, -2, -2));
+        promise("head, none there", order(-1, -2), (x, v) -> x.head(v[0], v[1]), SongThatStays::new, always,
+                range(0, 0, -1, -1), range(0, 7, -2, -2));
+    }
+
+    /** "-1", of a head or a room "-1 either". */
+    private static void nearDoorGo() {
+        promise("near", order(-1), (x, v) -> x.near(v[0]), HEAD);
+        promise("door", order(-1), (x, v) -> x.door(v[0]), DOOR);
+        promise("go", order(-1), (x, v) -> x.go(v[0], v[1]), HEAD, ROOM);
+        State always = v -> -1;
+        promise("near, none there", order(-1), (x, v) -> x.near(v[0]), SongThatStays::new, always, range(0, 0, -1, -1));
+        promise("door, none there", order(-1), (x, v) -> x.door(v[0]), SongThatStays::new, always, range(0, 0, -1, -1));
+        promise("go, none there", order(-1), (x, v) -> x.go(v[0], v[1]), SongThatStays::new, always,
+                range(0, 0, -1, -1), ROOM);
+    }
+
+    /** "song -1: he has none", "-1 either". */
+    private static void get() {
+        promise("get", order(-1), (x, v) -> x.get(v[0], v[1]), HEAD, SONG_OR_ANY);
+        promise("get, no songs there", order(-1), (x, v) -> x.get(v[0], v[1]), () -> Check.told("hh00;hh00;hh00;"),
+                v -> NONE, HEAD, range(-1, -1, -1, -1));
+    }
+
+    /** "-1; -2; -3 he has no SONG (0, 1)": gum is for everyone. */
+    private static void remedy() {
+        Call call = (x, v) -> x.remedy(v[0], v[1]);
+        int[] remedies = range(0, 2, -2, -2);
+        promise("remedy", order(-1, -2, -3), call, HEAD, remedies);
+        State songless = v -> v[1] == 2 ? NONE : -3;
+        promise("remedy, he has none", order(-1, -2, -3), call, () -> without(0, 2), songless, HEAD, remedies);
+    }
+
+    private static SongThatStays without(int... heads) {
+        SongThatStays x = standing();
+        for (int head : heads) {
+            x.get(head, -1);
+        }
+        return x;
+    }
+
+    /** "-4; -6 20". */
+    private static void loud() {
+        promise("loud", order(-4, -6), (x, v) -> x.loud(v[0]), range(1, 20, -4, -6));
+    }
+
+    /** "-1; -4; -6 60; -2", and "-1; -4; -6 60". */
+    private static void holdAndHave() {
+        promise("hold", order(-1, -4, -6, -2), (x, v) -> x.hold(v[0], v[1], v[2]), HEAD, HOURS, WHAT);
+        promise("have", order(-1, -4, -6), (x, v) -> x.have(v[0], v[1]), SONG_OR_ANY, HOURS);
+        promise("have, no songs there", order(-1, -4, -6), (x, v) -> x.have(v[0], v[1]), SongThatStays::new, v -> NONE,
+                range(-1, -1, -1, -1), HOURS);
+    }
+
+    /** "-1 either". */
+    private static void takes() {
+        promise("takes", order(-1), (x, v) -> x.takes(v[0], v[1]), HEAD, SONG);
+    }
+
+    /** "-1; -4; -6 60; -2". */
+    private static void most() {
+        Call call = (x, v) -> x.most(v[0], v[1], v[2]);
+        promise("most", order(-1, -4, -6, -2), call, SONG_OR_ANY, HOURS, WHAT);
+        promise("most, no songs there", order(-1, -4, -6, -2), call, SongThatStays::new, v -> NONE,
+                range(-1, -1, -1, -1), HOURS, WHAT);
+    }
+
+    /** "-4; -6 60". */
+    private static void lasts() {
+        promise("lasts", order(-4, -6), (x, v) -> x.lasts(v[0]), HOURS);
+    }
+
+    /** "-1; -4; -6 60". */
+    private static void fromAndFirst() {
+        promise("from", order(-1, -4, -6), (x, v) -> x.from(v[0], v[1]), HEAD, HOURS);
+        promise("first", order(-1, -4, -6), (x, v) -> x.first(v[0], v[1]), HEAD, HOURS);
+    }
+
+    /** "-1; -2; -3 he has no SONG", and "-1; -3 he has no SONG". */
+    private static void ridAndInstead() {
+        promise("rid", order(-1, -2, -3), (x, v) -> x.rid(v[0], v[1]), HEAD, WHAT);
+        promise("rid, he has none", order(-1, -2, -3), (x, v) -> x.rid(v[0], v[1]), () -> without(0, 2), v -> -3,
+                HEAD, WHAT);
+        promise("instead", order(-1, -3), (x, v) -> x.instead(v[0]), HEAD);
+        promise("instead, he has none", order(-1, -3), (x, v) -> x.instead(v[0]), () -> without(0, 2), v -> -3, HEAD);
+    }
+
+    /** "-4; -6 60". */
+    private static void shutAndSeats() {
+        promise("shut", order(-4, -6), (x, v) -> x.shut(v[0]), HOURS);
+        promise("seats", order(-4, -6), (x, v) -> x.seats(v[0]), HOURS);
+    }
+
+    /** "-4 (LENGTH below 1, n below 0); -6 (9; 60; 5 SONGS there are); -2; -3 there are no HEADS". */
+    private static void write() {
+        Call call = (x, v) -> x.write(v[0], v[1], v[2]);
+        int[] lengths = range(1, 9, -4, -6);
+        int[] order = order(-4, -6, -2, -3);
+        String four = "ss11;ss12;ss13;ss14;";
+        promise("write", order, call, lengths, HOURS, WHAT);
+        promise("write, 4 songs", order, call, () -> Check.told(four + "hh00;"), v -> NONE, lengths, HOURS, WHAT);
+        promise("write, 5 songs", order, call, () -> Check.told(four + "ss15;hh00;"), v -> -6, lengths, HOURS, WHAT);
+        promise("write, no heads", order, call, () -> Check.told(four), v -> -3, lengths, HOURS, WHAT);
+        promise("write, 5 songs and no heads", order, call, () -> Check.told(four + "ss15;"), v -> -6, lengths, HOURS,
+                WHAT);
+    }
+
+    /** "-4; -6 (9; 6, too)". */
+    private static void row() {
+        Call call = (x, v) -> x.row(v[0]);
+        int[] numbers = range(0, 9, -4, -6);
+        promise("row", order(-4, -6), call, numbers);
+        promise("row, 5 there", order(-4, -6), call, () -> rowed(5), v -> NONE, numbers);
+        promise("row, 6 there", order(-4, -6), call, () -> rowed(6), v -> -6, numbers);
+    }
+
+    /** As all is of three heads; what comes behind is told by judge, for six heads have it all. */
+    private static SongThatStays rowed(int number) {
+        SongThatStays x = Check.told("ss53;hh00;hh00;hh00;hh00;hh00;hh00;g00;g20;g40;");
+        for (int i = 0; i < number; i++) {
+            x.row(i % 2 == 0 ? 0 : 9);
+        }
+        return x;
+    }
+
+    /** "-4; -6 60; -2; -3 the ROW is not as long as there are HEADS". */
+    private static void otherwise() {
+        Call call = (x, v) -> x.otherwise(v[0], v[1]);
+        int[] order = order(-4, -6, -2, -3);
+        promise("otherwise, one less", order, call, RefusalTest::standing, v -> -3, HOURS, WHAT);
+        promise("otherwise, as long", order, call, () -> longer(1), v -> NONE, HOURS, WHAT);
+        promise("otherwise, one more", order, call, () -> longer(2), v -> -3, HOURS, WHAT);
+        promise("otherwise, six", order, call, () -> rowed(6), v -> NONE, HOURS, WHAT);
+        promise("otherwise, five of six", order, call, () -> rowed(5), v -> -3, HOURS, WHAT);
+        promise("otherwise, nobody and nothing", order, call, SongThatStays::new, v -> NONE, HOURS, WHAT);
+        promise("otherwise, nobody", order, call, RefusalTest::rowedWithNobody, v -> -3, HOURS, WHAT);
+    }
+
+    private static SongThatStays longer(int more) {
+        SongThatStays x = standing();
+        for (int i = 0; i < more; i++) {
+            x.row(1);
+        }
+        return x;
+    }
+
+    private static SongThatStays rowedWithNobody() {
+        SongThatStays x = new SongThatStays();
+        x.row(9);
+        return x;
+    }
+
+    /** "-4; -6 40": n is 1 at least, whichever the seed. */
+    private static void seeds() {
+        promise("seeds", order(-4, -6), (x, v) -> x.seeds(v[0], v[1]), range(1, 40, -4, -6),
+                new int[] {Integer.MIN_VALUE, NONE, -1, NONE, 0, NONE, Integer.MAX_VALUE, NONE});
+    }
+
+    /** "-3 there is none". */
+    private static void on() {
+        promise("on", order(-3), (x, v) -> x.on());
+        promise("on, no image", order(-3), (x, v) -> x.on(), SongThatStays::new, v -> -3);
+        promise("on, no image", order(-3), (x, v) -> x.on(), () -> rowed(6), v -> -3);
+    }
+
+    private static void neverRefused() {
+        promise("office", order(), (x, v) -> x.office(), () -> lettered(96), v -> NONE);
+        promise("hour", order(), (x, v) -> x.hour());
+        promise("still", order(), (x, v) -> x.still());
+        promise("judge", order(), (x, v) -> x.judge());
+        promise("image", order(), (x, v) -> x.image());
+        promise("count", order(), (x, v) -> x.count(v[0]), range(0, 17, NONE, NONE));
     }
 }
