@@ -26,6 +26,7 @@ public final class SongThatStays {
     private static final int LAST_HOUR = 999;
     private static final int MIND_HOURS = 60;
     private static final int SEED_HOURS = 40;
+    private static final int WITHOUT_SIGN = 0x7fffffff;
     private static final int SONG_KINDS = 6;
     private static final int NO_REMEDY = 3;
 
@@ -453,7 +454,7 @@ public final class SongThatStays {
         for (int i = 0; i < n; i++) {
             for (int head = 0; head < mind.heads.number; head++) {
                 seed = seed * 1664525 + 1013904223;
-                put(mind.heads.place, head, (seed & Integer.MAX_VALUE) / 256 % ROOMS);
+                put(mind.heads.place, head, (seed & WITHOUT_SIGN) / 256 % ROOMS);
             }
             mind.passHour();
         }

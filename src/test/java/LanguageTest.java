@@ -4,7 +4,11 @@ import java.lang.reflect.Method;
 import java.lang.reflect.Modifier;
 import java.nio.file.Files;
 import java.nio.file.Path;
+import java.util.ArrayList;
+import java.util.List;
+import java.util.Map;
 import java.util.Set;
+import java.util.TreeMap;
 import java.util.TreeSet;
 import java.util.regex.Matcher;
 import java.util.regex.Pattern;
@@ -22,6 +26,8 @@ public final class LanguageTest {
         String code = codeOf(Files.readString(SOURCE));
         words(code);
         lengths(code);
+        objects(code);
+        depths(code);
         face();
         members(SongThatStays.class);
         for (Class<?> inside : SongThatStays.class.getDeclaredClasses()) {
@@ -50,7 +56,7 @@ public final class LanguageTest {
             CHECK.due("the code has no " + word, found.find() ? 1 : 0, 0);
         }
         Matcher calls = Pattern.compile("\\b(Math|Integer|Long|System|Arrays|String|List|Character)\\.(\\w+)").matcher(code);
-        Set<String> allowed = Set.of("Math.min", "Math.max", "Integer.MAX_VALUE", "System.arraycopy");
+        Set<String> allowed = Set.of("Math.min", "Math.max", "System.arraycopy");
         while (calls.find()) {
             CHECK.due("the library has " + calls.group(), allowed.contains(calls.group()) ? 1 : 0, 1);
         }
@@ -66,6 +72,68 @@ public final class LanguageTest {
             CHECK.due("short enough: " + methods.group().lines().findFirst().get().trim(), Math.min(60, lines), lines);
         }
         CHECK.due("methods are found", found > 80 ? 1 : 0, 1);
+    }
+
+    /** Objects and arrays are made beside the fields alone, so that no call makes one. */
+    private static void objects(String code) {
+        Matcher made = Pattern.compile("(?m)^.*\\bnew\\b.*$").matcher(code);
+        while (made.find()) {
+            boolean isField = made.group().matches(" +private final [\\w\\[\\]]+ \\w+ = new \\w+[(\\[]\\w*[)\\]];");
+            CHECK.due("made beside a field: " + made.group().trim(), isField ? 1 : 0, 1);
+        }
+    }
+
+    /** No call comes back to itself, and calls go at most eight deep; what calls what is read from the text. */
+    private static void depths(String code) {
+        Map<String, String> bodies = new TreeMap<>();
+        String type = "SongThatStays";
+        String[] lines = code.split("\n");
+        for (int i = 0; i < lines.length; i++) {
+            Matcher inside = Pattern.compile("^    private static final class (\\w+) .*").matcher(lines[i]);
+            Matcher method = Pattern.compile("^( {4}| {8})\\w[^;=]*?(\\w+)\\([^;]*\\) \\{").matcher(lines[i]);
+            if (inside.matches()) {
+                type = inside.group(1);
+            } else if (method.matches()) {
+                List<String> body = new ArrayList<>();
+                for (i++; i < lines.length && !lines[i].equals(method.group(1) + "}"); i++) {
+                    body.add(lines[i]);
+                }
+                String owner = method.group(1).length() == 4 ? "SongThatStays" : type;
+                bodies.put(owner + "." + method.group(2), String.join("\n", body));
+            }
+        }
+        CHECK.due("methods are found", bodies.size() > 80 ? 1 : 0, 1);
+        for (String method : bodies.keySet()) {
+            int deep = depth(method, bodies, 0);
+            CHECK.due("calls from " + method + " go deep", Math.min(8, deep), deep);
+        }
+    }
+
+    private static int depth(String method, Map<String, String> bodies, int above) {
+        if (above > 20) {
+            return 1000;
+        }
+        int deepest = 0;
+        Matcher call = Pattern.compile("(?:(\\w+)\\.)?\\b(\\w+)\\(").matcher(bodies.get(method));
+        while (call.find()) {
+            String called = calledBy(method, call.group(1), call.group(2), bodies);
+            if (called != null) {
+                deepest = Math.max(deepest, depth(called, bodies, above + 1));
+            }
+        }
+        return deepest + 1;
+    }
+
+    private static String calledBy(String method, String on, String name, Map<String, String> bodies) {
+        Map<String, String> types = Map.of("now", "Office", "mind", "Office", "kept", "Office", "doors", "Doors",
+                "songs", "Songs", "heads", "Heads", "text", "Text");
+        String own = method.substring(0, method.indexOf('.') + 1) + name;
+        String outer = "SongThatStays." + name;
+        if (on != null) {
+            String other = types.getOrDefault(on, "library") + "." + name;
+            return bodies.containsKey(other) ? other : null;
+        }
+        return bodies.containsKey(own) ? own : bodies.containsKey(outer) ? outer : null;
     }
 
     private static void face() {
@@ -88,6 +156,9 @@ public final class LanguageTest {
         for (Field field : type.getDeclaredFields()) {
             int modifiers = field.getModifiers();
             fields += Modifier.isStatic(modifiers) ? 0 : 1;
+            boolean isPlain = Set.of("int", "boolean", "int[]", "java.lang.String").contains(field.getType().getTypeName());
+            boolean isOwn = field.getType().getEnclosingClass() == SongThatStays.class;
+            CHECK.due(field + " is of a type that is listed", isPlain || isOwn ? 1 : 0, 1);
             CHECK.due(field + " is private", Modifier.isPrivate(modifiers) ? 1 : 0, 1);
             CHECK.due(field + " is final if static", Modifier.isStatic(modifiers) && !Modifier.isFinal(modifiers) ? 1 : 0, 0);
         }
